@@ -967,13 +967,14 @@ public final class BranchedText {
 
     /** TEST, as steps over a heap of truths, each step behind what it takes from the heap. */
     private static final class JoinTest {
+        /** A step takes four bytes of a TEXT or more. */
+        private static final int MOST_STEPS = MOST_TEXT / 4 + 1;
         private static final int NOT = 18;
         private static final int AND = 19;
         private static final int OR = 20;
         private static final int RELATIONS = 3;
         private static final int LESS = 0;
         private static final int SAME = 1;
-        private static final int MORE = 2;
         private static final int GAP = 0;
         private static final int SIZE = 1;
         private static final int KIND = 2;
@@ -982,8 +983,8 @@ public final class BranchedText {
         private static final int LONG = 5;
         private static final int VALUES = 6;
 
-        private final int[] steps = new int[MOST_TEXT];
-        private final int[] numbers = new int[MOST_TEXT];
+        private final int[] steps = new int[MOST_STEPS];
+        private final int[] numbers = new int[MOST_STEPS];
         private final int[] values = new int[VALUES];
         private int size;
 
@@ -1007,7 +1008,7 @@ public final class BranchedText {
         }
 
         void add(int step, int number) {
-            if (size >= 0 && size < MOST_TEXT) {
+            if (size >= 0 && size < MOST_STEPS) {
                 steps[size] = step;
                 numbers[size] = number;
                 size++;
@@ -1020,10 +1021,10 @@ public final class BranchedText {
             }
         }
 
-        /** The heap is the bits of one number: [ and or nest far less deep than it has bits. */
+        /** The heap is the bits of one number: [ and not nest far less deep than it has bits. */
         boolean holds() {
             long heap = 0;
-            for (int i = 0; i < size && i < MOST_TEXT; i++) {
+            for (int i = 0; i < size && i < MOST_STEPS; i++) {
                 int step = steps[i];
                 if (step == NOT) {
                     heap ^= 1L;
@@ -1032,22 +1033,15 @@ public final class BranchedText {
                 } else if (step == OR) {
                     heap = heap >>> 1 | (heap & 1L);
                 } else {
-                    heap = heap << 1 | (compares(step, numbers[i]) ? 1L : 0L);
+                    int asked = step / RELATIONS;
+                    int value = asked >= 0 && asked < VALUES ? values[asked] : 0;
+                    int relation = step % RELATIONS;
+                    boolean truth = relation == LESS ? value < numbers[i]
+                            : relation == SAME ? value == numbers[i] : value > numbers[i];
+                    heap = heap << 1 | (truth ? 1L : 0L);
                 }
             }
             return (heap & 1L) != 0;
-        }
-
-        private boolean compares(int step, int number) {
-            int value = step / RELATIONS;
-            if (value < 0 || value >= VALUES) {
-                return false;
-            }
-            switch (step % RELATIONS) {
-                case LESS: return values[value] < number;
-                case SAME: return values[value] == number;
-                default: return values[value] > number;
-            }
         }
     }
 
@@ -1828,35 +1822,24 @@ public final class BranchedText {
                 return true;
             }
             if (isSmall(value)) {
-                return nextWord();
+                kind = A_WORD;
+                while (end < length && isSmall(byteAt(end))) {
+                    end++;
+                }
+                return true;
             }
             if (isDigit(value)) {
-                return nextNumber();
+                kind = A_NUMBER;
+                value = 0;
+                while (end < length && end - from <= MOST_DIGITS && isDigit(byteAt(end))) {
+                    value = value * 10 + byteAt(end) - '0';
+                    end++;
+                }
+                return end - from <= MOST_DIGITS || fail(NO_TOKEN);
             }
             kind = A_SIGN;
             end++;
             return value >= ';' && value <= '>' || value == '[' || value == ']' || fail(NO_TOKEN);
-        }
-
-        private boolean nextWord() {
-            kind = A_WORD;
-            while (end < length && isSmall(byteAt(end))) {
-                end++;
-            }
-            return true;
-        }
-
-        private boolean nextNumber() {
-            kind = A_NUMBER;
-            value = 0;
-            while (end < length && isDigit(byteAt(end))) {
-                if (end - from >= MOST_DIGITS) {
-                    return fail(NO_TOKEN);
-                }
-                value = value * 10 + byteAt(end) - '0';
-                end++;
-            }
-            return true;
         }
 
         private static boolean isSmall(int b) {
@@ -1938,7 +1921,7 @@ public final class BranchedText {
         private boolean fact(JoinTest join, int depth) {
             boolean not = is("not");
             if (!not && !isSign('[')) {
-                return comparison(join);
+                return comparison(join, asked());
             }
             if (depth >= MOST_NESTED) {
                 return fail(NESTED);
@@ -1957,8 +1940,7 @@ public final class BranchedText {
             return isSign(']') ? next() : fail(MISPLACED);
         }
 
-        private boolean comparison(JoinTest join) {
-            int asked = asked();
+        private boolean comparison(JoinTest join, int asked) {
             if (asked == NONE) {
                 return fail(MISPLACED);
             }
