@@ -2,15 +2,32 @@
 final class Due {
     private static int wrong = 0;
     private static int held = 0;
+    private static String sentence = "";
 
     private Due() {
+    }
+
+    /** The sentence of the document that the answers from here on hold to. */
+    static void says(String words) {
+        sentence = words;
+    }
+
+    private static void fail(String what) {
+        wrong++;
+        System.out.println((sentence.isEmpty() ? "" : "\"" + sentence + "\": ") + what);
     }
 
     static void due(String call, int got, int want) {
         held++;
         if (got != want) {
-            wrong++;
-            System.out.println(call + " answered " + got + ", due is " + want);
+            fail(call + " answered " + got + ", due is " + want);
+        }
+    }
+
+    static void same(String what, String got, String want) {
+        held++;
+        if (!got.equals(want)) {
+            fail(what + " is '" + got + "', due is '" + want + "'");
         }
     }
 
@@ -84,12 +101,7 @@ final class Due {
     }
 
     static void tells(BranchedText x, int what, String want) {
-        held++;
-        String got = told(x, what);
-        if (!got.equals(want)) {
-            wrong++;
-            System.out.println("tell(" + what + ") told '" + got + "', due is '" + want + "'");
-        }
+        same("what tell(" + what + ") told", told(x, what), want);
     }
 
     static void end(String name) {
