@@ -299,6 +299,7 @@ public final class PromisesEdgesTest {
         all("child, i", 1, BELOW, (x, n) -> x.child(0, n));
         all("child, i of no STATE", 1, BELOW, (x, n) -> x.child(48, n));
         all("child, a STATE", 2, NO_STATES, (x, n) -> x.child(n, 0));
+        all("child, a STATE and i too large", 2, NO_STATES, (x, n) -> x.child(n, MOST));
         all("child, i", 5, new int[] {1, 2, 47, 48, MOST}, (x, n) -> x.child(0, n));
         all("child, of a leaf", 5, new int[] {0, 1, MOST}, (x, n) -> x.child(2, n));
         BranchedText x = new BranchedText();

@@ -370,19 +370,25 @@ public final class TermsEdgesTest {
 
     /** As many FACTS as 700 bytes hold, of which the last one alone decides. */
     private static void longTests() {
-        String acts = ";put0a;put0a;";
         String or = "join gap>0";
-        while (or.length() < 670) {
+        while (or.length() < 690) {
             or += "or gap>0";
         }
-        Due.due("none is so", Due.of(or + acts).state(2, 5), 2);
-        Due.due("the last one is so", Due.of(or + "or gap=0" + acts).state(2, 5), 1);
+        longTest(or + ";", 2);
+        longTest(or + "or gap=0;", 1);
         String and = "join gap=0";
-        while (and.length() < 665) {
+        while (and.length() < 685) {
             and += "and gap=0";
         }
-        Due.due("all are so", Due.of(and + acts).state(2, 5), 1);
-        Due.due("the last one is not so", Due.of(and + "and gap>0" + acts).state(2, 5), 2);
+        longTest(and + ";", 1);
+        longTest(and + "and gap>0;", 2);
+    }
+
+    private static void longTest(String text, int first) {
+        BranchedText x = Due.of(text);
+        Due.put(x, 0, "a");
+        Due.put(x, 0, "b");
+        Due.due("the GROUP with " + text, x.state(2, 5), first);
     }
 
     private static void startOf40() {
@@ -561,7 +567,7 @@ public final class TermsEdgesTest {
         isAnew(x);
         // no TEST is left of the longest one
         StringBuilder longest = new StringBuilder("join gap=0");
-        while (longest.length() < 690) {
+        while (longest.length() < 698) {
             longest.append("or gap=0");
         }
         for (int i = 0; i < 3; i++) {
