@@ -229,6 +229,13 @@ public final class PromisesEdgesTest {
         Due.fine("VISITS of those that went stay counted", x, x.many(9), 6);
         x.load(0);
         Due.fine("VISITS since load()", x, x.many(9), 0);
+        Due.load(x, "start q;put 0 a;put 1 b;undo;redo;wait 3;go 1;");
+        Due.fine("VISITS by LINES, each of which is as the call", x, x.many(9), 5);
+        x.undo();
+        Due.fine("and on from there", x, x.many(9), 6);
+        Due.load(x, "put 0 a;undo;undo;");
+        Due.fine("VISITS since the load() that had no FAULT", x, x.many(9), 6);
+        x.load(0);
         // the most leaves that there can be
         Due.type(x, "a");
         for (int i = 1; i < 48; i++) {

@@ -512,6 +512,39 @@ public final class SectionsEdgesTest {
         Due.tells(x, 0, TWELVE + "b");
     }
 
+    /** Where its LETTER is in the ROW but not seen, its PLACE tells where it comes: as of any PUT. */
+    private static void carriedBehindWhatWent() {
+        Due.says("at HERE, as a new ACT of the same kind");
+        String[] before = {
+            "start ab;put 1 x;go 0;cut 0 1;",
+            "start abcd;put 3 xy;go 0;cut 1 2;",
+            "start ab;put 1 uv;put 3 x;go 1;withdraw 1;",
+            "start abc;put 2 x;go 0;cut 0 2;put 0 q;",
+        };
+        int[] carried = {1, 1, 2, 1};
+        int[] place = {0, 1, 1, 1};
+        for (int i = 0; i < before.length; i++) {
+            BranchedText x = Due.of(before[i]);
+            BranchedText y = Due.of(before[i]);
+            int made = x.carry(carried[i]);
+            Due.due("status() behind carry", x.status(), 0);
+            Due.fine("its PLACE, " + before[i], x, x.state(made, 3), place[i]);
+            Due.put(y, place[i], i == 1 ? "xy" : "x");
+            Due.same("as put(" + place[i] + "), " + before[i], Picture.of(typedX(x)), Picture.of(typedX(y)));
+        }
+        BranchedText x = Due.of(before[0]);
+        x.carry(1);
+        Due.fine("ROW: it comes at the very beginning", x, x.row(0, 1), 3);
+        Due.fine("ROW: ahead of the LETTER that went", x, x.row(1, 4), 2);
+        x.withdraw(2);
+        Due.tells(x, 0, "xab");
+    }
+
+    private static BranchedText typedX(BranchedText x) {
+        Due.type(x, "x");
+        return x;
+    }
+
     private static void carriedCut() {
         Due.says("A CUT: those of the LETTERS that it took that one SEES at HERE; there must be some, side by side as one sees them.");
         BranchedText x = Due.of("start abc;cut 0 3;go 0;cut 0 1;cut 1 1;carry 1;");
@@ -1081,6 +1114,7 @@ public final class SectionsEdgesTest {
         numbersUsedAgain();
         refusedAbove120();
         carriedPut();
+        carriedBehindWhatWent();
         carriedCut();
         carriedOfAnotherLine();
         merged();

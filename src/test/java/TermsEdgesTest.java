@@ -579,6 +579,24 @@ public final class TermsEdgesTest {
         }
     }
 
+    /** OUT and the word typed are no part of what is made anew: tell() and type() alone make them other ones. */
+    private static void notAnew() {
+        Due.says("load() makes all anew: HERE is the START, NOW 0, no NAMES.");
+        BranchedText x = Due.of("start abc;name k;");
+        x.tell(2);
+        Due.type(x, "zz");
+        Due.fine("load", x, Due.load(x, "start q;put 0 r;name m;"), 2);
+        Due.fine("OUT as it was told", x, x.out(0), 'k');
+        Due.fine("OUT as it was told", x, x.out(2), '0');
+        Due.refused("OUT as it was told", x, x.out(3), 5);
+        Due.fine("the word typed", x, x.put(0), 2);
+        Due.tells(x, 0, "zzrq");
+        Due.fine("load(0)", x, x.load(0), 1);
+        Due.fine("OUT as it was told", x, x.out(0), 'z');
+        Due.fine("the word typed", x, x.name(), 1);
+        Due.tells(x, 2, "zz=0");
+    }
+
     private static void isAnew(BranchedText x) {
         int[] want = {1, 0, 0, 0, 0, 0, 1, 0, 0, 0};
         for (int what = 0; what < want.length; what++) {
@@ -617,6 +635,7 @@ public final class TermsEdgesTest {
         aSeventh();
         atTheEndOfALine();
         allAnew();
+        notAnew();
         Due.end("TermsEdgesTest");
     }
 }
